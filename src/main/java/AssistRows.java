@@ -466,7 +466,7 @@ public final class AssistRows {
 
         void solve(Measures told, Tracks tracks) {
             count = told.count;
-            bestJoined = NONE;
+            bestJoined = -1;
             bestSum = 0;
             for (int m = 0; m < MEASURES && m < count; m++) {
                 for (int i = 0; i < TRACKS; i++) {

@@ -15,6 +15,10 @@ final class ModeTest {
         check.same("free", a.mode(), 0);
         check.same("a lead", Scene.withTrack(60, 0, 10, 10).mode(), 1);
         check.same("stage 1 alone", Scene.withTrack(40, 0, 0, 20).mode(), 1);
+        AssistRows b = Scene.withTrack(10, 0, 0, 20);
+        b.driver(0, 1);
+        check.same("stage 2", Scene.see(b, 10, 0, 0, 20), 3);
+        check.same("stage 3", Scene.see(b, 10, 0, 0, 20), 3);
         a.driver(0, Double.MIN_VALUE);
         check.same("pedal", a.step(10, 0), 2);
         a.driver(0, 0);

@@ -6,6 +6,7 @@ final class SignTest {
         weights(check);
         othersFade(check);
         allCountsAreCleared(check);
+        clearedOfEachKind(check);
         check.end();
     }
 
@@ -55,12 +56,36 @@ final class SignTest {
         a.sign(2, 0);
         check.same("1 and 2 is not enough", a.sign(1, 60), 0);
         check.same("3 and 1 is", a.sign(1, 30), 1);
+        AssistRows c = new AssistRows();
+        c.sign(1, 30);
+        c.sign(2, 0);
+        c.sign(1, 60);
+        check.same("1 fades to 0, so 3 is all", c.sign(1, 30), 0);
         AssistRows b = new AssistRows();
         b.sign(1, 30);
         b.sign(2, 0);
         b.sign(2, 0);
         b.sign(1, 60);
         check.same("a count is 0 at least", b.sign(1, 60), 1);
+    }
+
+    private static void clearedOfEachKind(Check check) {
+        for (int kind = 1; kind <= 13; kind++) {
+            int other = kind == 1 ? 2 : 1;
+            AssistRows a = new AssistRows();
+            a.sign(kind, 60);
+            a.sign(kind, 60);
+            a.sign(other, 60);
+            a.sign(other, 60);
+            check.same("nothing is left of the count of " + kind, a.sign(kind, 60), other);
+            AssistRows b = new AssistRows();
+            b.sign(kind, 60);
+            b.sign(kind, 30);
+            b.sign(other, 60);
+            check.same("the other is taken", b.sign(other, 60), other);
+            b.sign(kind, 60);
+            check.same("nothing is left of the 1 of " + kind, b.sign(kind, 30), other);
+        }
     }
 
     private static void allCountsAreCleared(Check check) {

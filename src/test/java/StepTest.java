@@ -9,9 +9,11 @@ final class StepTest {
         whatMayBeJoined(check);
         mostJoinedBeforeLeastSum(check);
         leastSum(check);
+        costIsOfBothSides(check);
         firstOfEquals(check);
         costsAreCut(check);
         madeTracks(check);
+        noNumberIsLeft(check);
         sensorsDiffer(check);
         coasting(check);
         leaving(check);
@@ -146,6 +148,25 @@ final class StepTest {
         check.same("the others are made in order", b.track(2, 3), 4700);
     }
 
+    /** Two tracks; which of them a measure at (50, 0) is joined to tells the lesser cost. */
+    private static int nearer(double x0, double y0, double x1, double y1) {
+        AssistRows a = new AssistRows();
+        a.object(0, x0, y0, 0, 0);
+        a.object(0, x1, y1, 0, 0);
+        a.step(0, 0);
+        a.object(0, 50, 0, 0, 0);
+        a.step(0, 0);
+        return a.track(0, 2) == 0 ? 0 : 1;
+    }
+
+    private static void costIsOfBothSides(Check check) {
+        check.same("200 against 100 + 50", nearer(52, 0, 51, 0.5), 1);
+        check.same("100 + 150 against 200", nearer(49, 1.5, 48, 0), 1);
+        check.same("200 aside against 150 ahead", nearer(50, -2, 51.5, 0), 1);
+        check.same("200 ahead against 200 aside", nearer(52, 0, 50, 2), 0);
+        check.same("200 aside against 200 ahead", nearer(50, 2, 52, 0), 0);
+    }
+
     private static void firstOfEquals(Check check) {
         AssistRows a = tracksAt(50, 54);
         a.object(0, 52, 0, 0, 0);
@@ -202,6 +223,28 @@ final class StepTest {
         check.same("COAST 0", a.track(1, 2), 0);
         check.same("Y as told", a.track(1, 4), 400);
         check.same("V as told", a.track(1, 5), 700);
+    }
+
+    private static void noNumberIsLeft(Check check) {
+        AssistRows a = tracksAt(10, 30, 50, 70);
+        for (double x : new double[] {90, 110, 130}) {
+            a.object(1, x, 0, 0, 0);
+        }
+        a.step(0, 0);
+        a.object(0, 150, 1, 5, 0);
+        a.object(0, 170, 1, 5, 0);
+        a.object(1, 190, 1, 5, 0);
+        check.same("a step all the same", a.step(0, 0), 0);
+        check.same("the last number", a.track(7, 3), 15000);
+        check.same("all are there", tracksOf(a), 8);
+        for (int n = 0; n < 2; n++) {
+            a.object(0, 170, 1, 5, 0);
+            a.step(0, 0);
+        }
+        check.same("lost while none is free, four are gone", tracksOf(a), 4);
+        a.object(0, 170, 1, 5, 0);
+        a.step(0, 0);
+        check.same("made when one is", a.track(0, 3), 17000);
     }
 
     private static void sensorsDiffer(Check check) {

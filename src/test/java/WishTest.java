@@ -46,6 +46,9 @@ final class WishTest {
         check.same("PULL", a.wish(0), 0.5);
         a.step(70, 0);
         check.same("BRAKING", a.wish(0), -1.0);
+        a.limit(3, 3);
+        a.step(10, 0);
+        check.same("2 at most, though PULL is 3", a.wish(0), 2.0);
         a.limit(3, -0.0);
         a.step(10, 0);
         check.same("a 0 has no sign", a.wish(0), 0.0);
@@ -206,6 +209,18 @@ final class WishTest {
         b.lane(-0.5, 0, 0);
         b.step(0, 0);
         check.same("just 0.05", b.wish(1), 0.05);
+        AssistRows c = new AssistRows();
+        c.lane(-0.51, 0, 0);
+        c.step(0, 0);
+        check.same("more than 0.05", c.wish(1), 0.05);
+        c.step(0, 0);
+        check.same("the rest", c.wish(1), 0.1 * 0.51);
+        AssistRows d = new AssistRows();
+        d.lane(-0.399, 0, 0);
+        d.step(0, 0);
+        d.lane(0.101, 0, 0);
+        d.step(0, 0);
+        check.same("0.05 apart, where Z - 0.05 is another number", d.wish(1), 0 - 0.1 * 0.101);
     }
 
     private static void ofTheLastStep(Check check) {
