@@ -1,11 +1,27 @@
-/** Counts the answers of one test that are not as due. */
+import java.io.IOException;
+import java.io.UncheckedIOException;
+import java.nio.file.Files;
+import java.nio.file.Path;
+
+/** Counts the answers of one test that are not as due, each under the words of the document that it stands for. */
 final class Check {
+    private static final Path DOCUMENT = Path.of("../shared/DOC.md");
+
     private final String test;
+    private final String document;
+    private String words = "";
     private int wrong;
     private int asked;
 
     Check(String test) {
         this.test = test;
+        this.document = onOneLine(documentText());
+    }
+
+    /** What is checked from here on stands for these words, which must be the document's own. */
+    void sentence(String quoted) {
+        words = quoted;
+        holds("the words stand in DOC.md", document.contains(onOneLine(quoted)));
     }
 
     void same(String call, long got, long due) {
@@ -40,7 +56,19 @@ final class Check {
     private void tell(String call, String got, String due) {
         wrong++;
         if (wrong <= 20) {
-            System.out.println(test + ": " + call + " answered " + got + ", due is " + due);
+            System.out.println(test + ", \"" + words + "\": " + call + " answered " + got + ", due is " + due);
         }
+    }
+
+    private static String documentText() {
+        try {
+            return Files.readString(DOCUMENT);
+        } catch (IOException e) {
+            throw new UncheckedIOException(e);
+        }
+    }
+
+    private static String onOneLine(String text) {
+        return text.replaceAll("\\s+", " ");
     }
 }

@@ -2,55 +2,62 @@
 final class DriverTest {
     public static void main(String[] args) {
         Check check = new Check("DriverTest");
-        ranges(check);
-        orderOfRefusals(check);
-        kept(check);
+        pedal(check);
+        brake(check);
+        steer(check);
+        noSuchKind(check);
         check.end();
     }
 
-    private static void ranges(Check check) {
+    private static double pullWith(int kind, double v) {
         AssistRows a = new AssistRows();
-        for (int kind = 0; kind < 3; kind++) {
-            double least = kind == 2 ? -1 : 0;
-            check.same("least", a.driver(kind, least), 1);
-            check.same("most", a.driver(kind, 1), 1);
-            check.same("below", a.driver(kind, Math.nextDown(least)), -2);
-            check.same("above", a.driver(kind, Math.nextUp(1.0)), -2);
-            check.same("0 with a sign", a.driver(kind, -0.0), 1);
-            for (double v : Scene.NO_NUMBERS) {
-                check.same("driver(" + kind + ", " + v + ")", a.driver(kind, v), -2);
-            }
+        a.limit(3, 3);
+        a.driver(kind, v);
+        a.step(0, 0);
+        return a.wish(0);
+    }
+
+    private static void pedal(Check check) {
+        check.sentence("kind = 0 PEDAL, 1 BRAKE (0 .. 1)");
+        new Range(check).answersOne("PEDAL", 0, 1, (a, v) -> a.driver(0, v));
+        check.same("0 with a sign", new AssistRows().driver(0, -0.0), 1);
+        check.same("0", pullWith(0, 0), 0.0);
+        check.same("0.5", pullWith(0, 0.5), 1.5);
+        check.same("1", pullWith(0, 1), 3.0);
+    }
+
+    private static void brake(Check check) {
+        check.sentence("kind = 0 PEDAL, 1 BRAKE (0 .. 1)");
+        new Range(check).answersOne("BRAKE", 0, 1, (a, v) -> a.driver(1, v));
+        check.same("0 with a sign", new AssistRows().driver(1, -0.0), 1);
+        check.same("0", pullWith(1, 0), 0.0);
+        check.same("0.5", pullWith(1, 0.5), -4.5);
+        check.same("1", pullWith(1, 1), -9.0);
+    }
+
+    private static void steer(Check check) {
+        check.sentence("2 STEER (-1 .. 1)");
+        new Range(check).answersOne("STEER", -1, 1, (a, v) -> a.driver(2, v));
+        for (double v : new double[] {-1, 1}) {
+            AssistRows a = new AssistRows();
+            a.lane(-0.25, 0, 0);
+            a.driver(2, v);
+            a.step(0, 0);
+            check.same("STEER " + v + " is above 0.05 without its sign", a.wish(1), 0.0);
         }
     }
 
-    private static void orderOfRefusals(Check check) {
-        AssistRows a = new AssistRows();
-        for (int kind : new int[] {-1, 3, Integer.MIN_VALUE, Integer.MAX_VALUE}) {
-            check.same("kind " + kind, a.driver(kind, 0), -1);
-            check.same("-1 before -2", a.driver(kind, Double.NaN), -1);
+    private static void noSuchKind(Check check) {
+        check.sentence("-1 there is no such kind, -2.");
+        for (int kind = 0; kind <= 2; kind++) {
+            check.same(kind + " is one", new AssistRows().driver(kind, 1), 1);
         }
-    }
-
-    private static void kept(Check check) {
-        AssistRows a = new AssistRows();
-        a.driver(0, 0.5);
-        a.driver(0, 2);
-        a.step(0, 0);
-        check.same("the pedal as it was told", a.wish(0), 1.5);
-        check.same("the pedal's mode", a.mode(), 2);
-        a.driver(0, 0);
-        a.driver(1, 0.5);
-        a.driver(1, -1);
-        a.step(0, 0);
-        check.same("the brake as it was told", a.wish(0), -4.5);
-        check.same("the brake's mode", a.mode(), 2);
-        a.driver(1, 0);
-        a.step(0, 0);
-        check.same("neither", a.mode(), 0);
-        a.lane(-5, 0, 0);
-        a.driver(2, 1);
-        a.driver(2, Double.NaN);
-        a.step(0, 0);
-        check.same("the driver steers", a.wish(1), 0.0);
+        Refusal refusal = new Refusal(check);
+        refusal.everywhere("3", a -> a.driver(3, 1), -1);
+        refusal.everywhere("3 before -2", a -> a.driver(3, -2), -1);
+        for (int kind : Scene.FAR) {
+            refusal.everywhere("" + kind, a -> a.driver(kind, 1), -1);
+            refusal.everywhere(kind + " before -2", a -> a.driver(kind, 2), -1);
+        }
     }
 }

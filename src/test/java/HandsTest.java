@@ -1,68 +1,55 @@
-/** Promise 13: hands, and OFF of point 6. */
+/** Promise 13: hands. */
 final class HandsTest {
     public static void main(String[] args) {
         Check check = new Check("HandsTest");
-        answers(check);
-        ranges(check);
-        off(check);
-        stop(check);
+        onOrNot(check);
+        zeroIfItWasSo(check);
+        notBelowNow(check);
         check.end();
     }
 
-    private static void answers(Check check) {
+    private static void onOrNot(Check check) {
+        check.sentence("The hands are ON, or not, told at a time");
         AssistRows a = new AssistRows();
-        check.same("on already", a.hands(true, 0), 0);
+        check.same("off", a.hands(false, 3), 1);
+        check.same("a hand-over may be asked", a.handOver(3), 1);
+        check.same("ON", a.hands(true, 0), 1);
+        check.same("a STEP with hands ON", a.step(1, 20), 0);
+        check.same("off, told for later", a.hands(false, 50), 1);
+        check.same("before that time", a.step(1, 40), 0);
+        check.same("14.99.. after it", a.step(1, Math.nextDown(65.0)), 0);
+        check.same("15 after it", a.step(1, 65), 4);
+    }
+
+    private static void zeroIfItWasSo(Check check) {
+        check.sentence("0 if it was so (that changes nothing)");
+        AssistRows a = new AssistRows();
+        check.same("ON at first", a.hands(true, 0), 0);
         check.same("off", a.hands(false, 0), 1);
         check.same("off already", a.hands(false, 0), 0);
-        check.same("on", a.hands(true, 0), 1);
-    }
-
-    private static void ranges(Check check) {
-        AssistRows a = new AssistRows();
-        a.step(0, 5);
-        check.same("below NOW", a.hands(false, 4.5), -2);
-        check.same("above", a.hands(false, Math.nextUp(100000.0)), -2);
-        check.same("-2 before 0", a.hands(true, 4.5), -2);
-        for (double v : Scene.NO_NUMBERS) {
-            check.same("t " + v, a.hands(false, v), -2);
-            check.same("t " + v, a.hands(true, v), -2);
+        check.same("ON", a.hands(true, 0), 1);
+        check.same("ON already", a.hands(true, 0), 0);
+        Refusal refusal = new Refusal(check);
+        for (State state : new State[] {State.NEW, State.FULL, State.DRIVING}) {
+            refusal.in(state, "ON already", b -> b.hands(true, 12), 0);
+            refusal.in(state, "ON already", b -> b.hands(true, 100000), 0);
         }
-        check.same("a refusal changes nothing", a.hands(true, 5), 0);
-        check.same("most", a.hands(false, 100000), 1);
-        check.same("NOW", a.hands(true, 5), 1);
+        for (State state : new State[] {State.HANDS_OFF, State.ASKED, State.STOPPING}) {
+            refusal.in(state, "off already", b -> b.hands(false, 12), 0);
+            refusal.in(state, "off already", b -> b.hands(false, 100000), 0);
+        }
     }
 
-    private static void off(Check check) {
+    private static void notBelowNow(Check check) {
+        check.sentence("(not below NOW, at most 100000)");
+        new Range(check).ofTime("ON", (a, t) -> a.hands(true, t));
+        new Range(check).ofTime("off", (a, t) -> a.hands(false, t));
         AssistRows a = new AssistRows();
-        a.hands(false, 2);
-        check.same("before it was told", a.step(1, 1), 0);
-        check.same("below 15", a.step(1, Math.nextDown(17.0)), 0);
-        check.same("15", a.step(1, 17), 4);
-        a.hands(false, 17);
-        check.same("told again changes nothing", a.step(1, 18), 4);
-        a.hands(true, 18);
-        check.same("the mode is that of the step", a.mode(), 4);
-        check.same("on", a.step(1, 18), 0);
-        a.hands(false, 20);
-        check.same("off anew", a.step(1, 34.5), 0);
-        check.same("off anew", a.step(1, 35), 4);
-    }
-
-    private static void stop(Check check) {
-        AssistRows a = new AssistRows();
-        a.hands(false, 0);
-        check.same("below 40", a.step(1, Math.nextDown(40.0)), 4);
-        check.same("40", a.step(1, 40), 5);
-        check.same("standing, but off", a.step(0, 40), 5);
-        a.hands(true, 40);
-        check.same("on, but driving", a.step(1, 40), 5);
-        a.hands(false, 40);
-        check.same("off again", a.step(0, 40), 5);
-        a.hands(true, 40);
-        check.same("standing and on", a.step(-0.0, 40), 0);
-        check.same("it has ended", a.step(1, 41), 0);
-        a.hands(false, 41);
-        check.same("off since 41", a.step(1, 80), 4);
-        check.same("off since 41", a.step(1, 81), 5);
+        a.step(1, 5);
+        check.same("below NOW", a.hands(false, Math.nextDown(5.0)), -2);
+        check.same("-2 before 0", a.hands(true, Math.nextDown(5.0)), -2);
+        check.same("100000", a.hands(false, 100000), 1);
+        check.same("above", a.hands(true, Math.nextUp(100000.0)), -2);
+        check.same("NOW, though they were told for later", a.hands(true, 5), 1);
     }
 }

@@ -2,57 +2,56 @@
 final class LaneTest {
     public static void main(String[] args) {
         Check check = new Check("LaneTest");
-        edges(check);
-        refusalsChangeNothing(check);
-        middle(check);
+        offsetIsMinus5To5(check);
+        slopeIsMinus1To1(check);
+        curveIsWithinAHundredth(check);
+        theMiddle(check);
         check.end();
     }
 
-    private static void edges(Check check) {
-        AssistRows a = new AssistRows();
-        check.same("least", a.lane(-5, -1, -0.01), 1);
-        check.same("most", a.lane(5, 1, 0.01), 1);
-        check.same("offset below", a.lane(Math.nextDown(-5.0), 0, 0), -2);
-        check.same("offset above", a.lane(Math.nextUp(5.0), 0, 0), -2);
-        check.same("slope below", a.lane(0, Math.nextDown(-1.0), 0), -2);
-        check.same("slope above", a.lane(0, Math.nextUp(1.0), 0), -2);
-        check.same("curve below", a.lane(0, 0, Math.nextDown(-0.01)), -2);
-        check.same("curve above", a.lane(0, 0, Math.nextUp(0.01)), -2);
-        for (double v : Scene.NO_NUMBERS) {
-            check.same("offset " + v, a.lane(v, 0, 0), -2);
-            check.same("slope " + v, a.lane(0, v, 0), -2);
-            check.same("curve " + v, a.lane(0, 0, v), -2);
-        }
+    private static void offsetIsMinus5To5(Check check) {
+        check.sentence("-2 offset is not -5 .. 5");
+        new Range(check).answersOne("offset", -5, 5, (a, v) -> a.lane(v, 1, 0.01));
+        check.same("5 is the middle", leadX(5, 0, 0, 10, 6.75), 10.0);
+        check.same("-5 is the middle", leadX(-5, 0, 0, 10, -6.75), 10.0);
     }
 
-    private static void refusalsChangeNothing(Check check) {
-        AssistRows a = new AssistRows();
-        a.lane(0.25, 0, 0);
-        a.lane(-0.25, 0, 1);
-        a.step(0, 0);
-        check.same("the lane as it was told", a.wish(1), -0.025);
+    private static void slopeIsMinus1To1(Check check) {
+        check.sentence("slope not -1 .. 1");
+        new Range(check).answersOne("slope", -1, 1, (a, v) -> a.lane(-5, v, -0.01));
+        check.same("1", leadX(0, 1, 0, 16, 17.75), 16.0);
+        check.same("-1", leadX(0, -1, 0, 16, -17.75), 16.0);
     }
 
-    /** A lead must lie within 1.75 of OFFSET + X * (SLOPE + X * CURVE). */
-    private static void middle(Check check) {
-        check.same("straight, at the edge", leadX(0, 0, 0, 50, 1.75), 50.0);
-        check.same("straight, at the right edge", leadX(0, 0, 0, 50, -1.75), 50.0);
-        check.same("straight, beyond", leadX(0, 0, 0, 50, 1.7501), -1.0);
-        check.same("straight, beyond on the right", leadX(0, 0, 0, 50, -1.7501), -1.0);
-        check.same("offset", leadX(2, 0, 0, 50, 3.75), 50.0);
-        check.same("offset, beyond", leadX(2, 0, 0, 50, 0.125), -1.0);
-        check.same("slope", leadX(0, 0.25, 0, 40, 11.75), 40.0);
-        check.same("slope, beyond", leadX(0, 0.25, 0, 40, 8.125), -1.0);
-        check.same("curve", leadX(0, 0, 0.0078125, 32, 9.75), 32.0);
-        check.same("curve, beyond", leadX(0, 0, 0.0078125, 32, 6.125), -1.0);
-        check.same("all three", leadX(-1, -0.25, 0.0078125, 64, 15 - 1.75), 64.0);
-        check.same("all three, beyond", leadX(-1, -0.25, 0.0078125, 64, 13), -1.0);
+    private static void curveIsWithinAHundredth(Check check) {
+        check.sentence("curve not -0.01 .. 0.01");
+        new Range(check).answersOne("curve", -0.01, 0.01, (a, v) -> a.lane(5, -1, v));
+        check.same("0.01", leadX(0, 0, 0.01, 40, 17.75), 40.0);
+        check.same("-0.01", leadX(0, 0, -0.01, 40, -17.75), 40.0);
+    }
+
+    /** The last place in the lane and the first beyond it, on the left and on the right. */
+    private static void theMiddle(Check check) {
+        check.sentence("its middle at X is OFFSET + X * (SLOPE + X * CURVE)");
+        edges(check, "OFFSET alone", 4, 0, 0, 48, 4);
+        edges(check, "SLOPE alone", 0, 0.25, 0, 40, 10);
+        edges(check, "CURVE alone", 0, 0, 0.0078125, 32, 8);
+        edges(check, "all three", -1, -0.25, 0.0078125, 64, 15);
+    }
+
+    private static void edges(Check check, String name, double offset, double slope, double curve, double x, double middle) {
+        check.same(name + ", left", leadX(offset, slope, curve, x, middle + 1.75), x);
+        check.same(name + ", beyond", leadX(offset, slope, curve, x, Math.nextUp(middle + 1.75)), -1.0);
+        check.same(name + ", right", leadX(offset, slope, curve, x, middle - 1.75), x);
+        check.same(name + ", beyond", leadX(offset, slope, curve, x, Math.nextDown(middle - 1.75)), -1.0);
     }
 
     private static double leadX(double offset, double slope, double curve, double x, double y) {
         AssistRows a = new AssistRows();
         a.lane(offset, slope, curve);
-        Scene.sureTrack(a, x, y, 10, 10);
+        for (int n = 0; n < 3; n++) {
+            Scene.see(a, x, y, 10, 10);
+        }
         return a.wish(3);
     }
 }

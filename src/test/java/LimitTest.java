@@ -1,56 +1,90 @@
 /** Promise 10: limit. */
 final class LimitTest {
-    private static final double[] LEAST = {0, 0.5, 1, 0};
-    private static final double[] MOST = {60, 3, 9, 3};
-
     public static void main(String[] args) {
         Check check = new Check("LimitTest");
-        ranges(check);
-        refusals(check);
-        kept(check);
+        speedWished(check);
+        gap(check);
+        braking(check);
+        mostPull(check);
+        noSuchWhat(check);
         check.end();
     }
 
-    private static void ranges(Check check) {
+    private static double pullAt(double speed, int what, double v) {
         AssistRows a = new AssistRows();
-        for (int what = 0; what < 4; what++) {
-            check.same("least of " + what, a.limit(what, LEAST[what]), 1);
-            check.same("most of " + what, a.limit(what, MOST[what]), 1);
-            check.same("below " + what, a.limit(what, Math.nextDown(LEAST[what])), -2);
-            check.same("above " + what, a.limit(what, Math.nextUp(MOST[what])), -2);
-            for (double v : Scene.NO_NUMBERS) {
-                check.same("limit(" + what + ", " + v + ")", a.limit(what, v), -2);
-            }
-        }
+        a.limit(what, v);
+        a.step(speed, 0);
+        return a.wish(0);
     }
 
-    private static void refusals(Check check) {
-        AssistRows a = new AssistRows();
-        for (int what : new int[] {-1, 4, Integer.MIN_VALUE, Integer.MAX_VALUE}) {
-            check.same("limit " + what, a.limit(what, 1), -1);
-            check.same("-1 before -2", a.limit(what, Double.NaN), -1);
-        }
-        a.limit(0, 3);
-        a.limit(0, 61);
-        a.step(0, 0);
-        check.same("a refused limit changes nothing", a.wish(0), 1.5);
+    private static void speedWished(Check check) {
+        check.sentence("A LIMIT: 0 (0 .. 60)");
+        new Range(check).answersOne("the SPEED wished", 0, 60, (a, v) -> a.limit(0, v));
+        check.same("0", pullAt(3, 0, 0), -1.5);
+        check.same("60", pullAt(59, 0, 60), 0.5);
     }
 
-    private static void kept(Check check) {
-        AssistRows a = Scene.withTrack(23, 0, 10, 10);
+    /** With a lead as fast that is 3 ahead of the place where a gap of 1 ends. */
+    private static double pullWithGap(double gap) {
+        AssistRows a = new AssistRows();
         a.limit(0, 60);
-        a.limit(1, 2);
-        Scene.see(a, 23, 0, 10, 10);
-        check.same("the gap", a.wish(0), (23 - (3 + 2.0 * 10)) * 0.2);
-        AssistRows b = new AssistRows();
-        b.limit(0, 60);
-        b.limit(2, 4);
-        b.limit(3, 3);
-        b.driver(0, 1);
-        b.step(10, 0);
-        check.same("the pull", b.wish(0), 3.0);
-        b.driver(1, 1);
-        b.step(10, 0);
-        check.same("the braking", b.wish(0), -4.0);
+        a.limit(1, gap);
+        for (int n = 0; n < 3; n++) {
+            Scene.see(a, 10, 0, 4, 4);
+        }
+        return a.wish(0);
+    }
+
+    private static void gap(Check check) {
+        check.sentence("1 (0.5 .. 3)");
+        new Range(check).answersOne("the GAP", 0.5, 3, (a, v) -> a.limit(1, v));
+        check.same("0.5", pullWithGap(0.5), (10 - (3 + 0.5 * 4)) * 0.2);
+        check.same("3", pullWithGap(3), (10 - (3 + 3.0 * 4)) * 0.2);
+    }
+
+    private static double pullWithBraking(double braking) {
+        AssistRows a = new AssistRows();
+        a.driver(1, 1);
+        a.limit(2, braking);
+        a.step(10, 0);
+        return a.wish(0);
+    }
+
+    private static void braking(Check check) {
+        check.sentence("2 (1 .. 9)");
+        new Range(check).answersOne("BRAKING", 1, 9, (a, v) -> a.limit(2, v));
+        check.same("1", pullWithBraking(1), -1.0);
+        check.same("4", pullWithBraking(4), -4.0);
+        check.same("9", pullWithBraking(9), -9.0);
+    }
+
+    private static double pullWithPull(double most) {
+        AssistRows a = new AssistRows();
+        a.driver(0, 1);
+        a.limit(3, most);
+        a.step(10, 0);
+        return a.wish(0);
+    }
+
+    private static void mostPull(Check check) {
+        check.sentence("3 (0 .. 3)");
+        new Range(check).answersOne("PULL", 0, 3, (a, v) -> a.limit(3, v));
+        check.same("0", pullWithPull(0), 0.0);
+        check.same("1", pullWithPull(1), 1.0);
+        check.same("3", pullWithPull(3), 3.0);
+    }
+
+    private static void noSuchWhat(Check check) {
+        check.sentence("-1 there is no such what, -2.");
+        for (int what = 0; what <= 3; what++) {
+            check.same(what + " is one", new AssistRows().limit(what, 2), 1);
+        }
+        Refusal refusal = new Refusal(check);
+        refusal.everywhere("4", a -> a.limit(4, 2), -1);
+        refusal.everywhere("4 before -2", a -> a.limit(4, -1), -1);
+        for (int what : Scene.FAR) {
+            refusal.everywhere("" + what, a -> a.limit(what, 2), -1);
+            refusal.everywhere(what + " before -2", a -> a.limit(what, 61), -1);
+        }
     }
 }

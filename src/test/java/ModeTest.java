@@ -2,84 +2,177 @@
 final class ModeTest {
     public static void main(String[] args) {
         Check check = new Check("ModeTest");
-        each(check);
-        order(check);
         ofTheLastStep(check);
+        differing3OrMore(check);
+        stopping(check);
+        off15OrMore(check);
+        handOverWasAsked(check);
+        stage2Or3(check);
+        pedalOrBrakeAbove0(check);
+        thereIsALead(check);
+        otherwise0(check);
+        theFirstThatFits(check);
         check.end();
     }
 
-    private static void each(Check check) {
+    private static void ofTheLastStep(Check check) {
+        check.sentence("The MODE of the last STEP, 0 at first.");
         AssistRows a = new AssistRows();
-        check.same("new", a.mode(), 0);
-        a.step(10, 0);
-        check.same("free", a.mode(), 0);
-        check.same("a lead", Scene.withTrack(60, 0, 10, 10).mode(), 1);
-        check.same("stage 1 alone", Scene.withTrack(40, 0, 0, 20).mode(), 1);
-        AssistRows b = Scene.withTrack(10, 0, 0, 20);
-        b.driver(0, 1);
-        check.same("stage 2", Scene.see(b, 10, 0, 0, 20), 3);
-        check.same("stage 3", Scene.see(b, 10, 0, 0, 20), 3);
-        a.driver(0, Double.MIN_VALUE);
-        check.same("pedal", a.step(10, 0), 2);
+        check.same("at first", a.mode(), 0);
+        a.driver(0, 1);
+        check.same("told, but no STEP", a.mode(), 0);
+        check.same("a STEP", a.step(10, 0), 2);
+        check.same("of it", a.mode(), 2);
         a.driver(0, 0);
-        a.driver(1, Double.MIN_VALUE);
-        check.same("brake", a.step(10, 0), 2);
-        check.same("stopping", Scene.stopping(1).mode(), 5);
+        check.same("told, but no STEP", a.mode(), 2);
+        check.same("a refused STEP", a.step(10, 100001), -2);
+        check.same("of the last one", a.mode(), 2);
+        a.step(10, 0);
+        check.same("of the next one", a.mode(), 0);
     }
 
-    /** All at once, taken away from the first that fits to the last. */
-    private static void order(Check check) {
+    private static void differing3OrMore(Check check) {
+        check.sentence("6 DIFFERING is 3 or more");
+        AssistRows a = new AssistRows();
+        for (int n = 1; n <= 5; n++) {
+            int mode = Scene.seeTwice(a, 60, 15, 10, 20, 0, 0);
+            check.same("DIFFERING is " + n, mode, n >= 3 ? 6 : 0);
+        }
+        check.same("DIFFERING is 0", a.step(0, 0), 0);
+    }
+
+    private static void stopping(Check check) {
+        check.sentence("5 STOPPING");
+        AssistRows a = Scene.stopping(1);
+        check.same("STOPPING", a.mode(), 5);
+        a.hands(true, 10);
+        check.same("not OFF, yet STOPPING", a.step(1, 10), 5);
+        check.same("no more", a.step(0, 10), 0);
+    }
+
+    private static void off15OrMore(Check check) {
+        check.sentence("4 OFF is 15 or more");
+        AssistRows a = new AssistRows();
+        a.hands(false, 1);
+        check.same("14.99..", a.step(1, Math.nextDown(16.0)), 0);
+        check.same("15", a.step(1, 16), 4);
+        check.same("more", a.step(1, 20), 4);
+        a.hands(true, 20);
+        check.same("ON", a.step(1, 20), 0);
+    }
+
+    private static void handOverWasAsked(Check check) {
+        check.sentence("or a hand-over was asked");
+        AssistRows a = new AssistRows();
+        a.hands(false, 0);
+        check.same("none was", a.step(1, 0), 0);
+        a.handOver(3);
+        check.same("one was, for later", a.step(1, 0), 4);
+        a.hands(true, 0);
+        check.same("it is over in the same STEP", a.step(1, 0), 0);
+    }
+
+    private static void stage2Or3(Check check) {
+        check.sentence("3 STAGE is 2 or 3");
+        AssistRows a = Scene.withTrack(10, 0, 0, 20);
+        check.same("STAGE 1", a.stage(), 1);
+        check.same("STAGE 1", a.mode(), 1);
+        check.same("STAGE 2", Scene.see(a, 10, 0, 0, 20), 3);
+        check.same("STAGE 2", a.stage(), 2);
+        check.same("STAGE 3", Scene.see(a, 10, 0, 0, 20), 3);
+        check.same("STAGE 3", a.stage(), 3);
+        check.same("STAGE 0", Scene.see(a, 10, 0, 0, 0), 1);
+    }
+
+    private static void pedalOrBrakeAbove0(Check check) {
+        check.sentence("2 PEDAL or BRAKE is above 0");
+        for (int kind = 0; kind < 2; kind++) {
+            AssistRows a = new AssistRows();
+            a.driver(kind, 0);
+            check.same("0", a.step(10, 0), 0);
+            a.driver(kind, -0.0);
+            check.same("0 with a sign", a.step(10, 0), 0);
+            a.driver(kind, Double.MIN_VALUE);
+            check.same("above", a.step(10, 0), 2);
+            a.driver(1 - kind, 1);
+            check.same("both", a.step(10, 0), 2);
+        }
+        AssistRows b = new AssistRows();
+        b.driver(2, 1);
+        check.same("STEER alone is neither", b.step(10, 0), 0);
+    }
+
+    private static void thereIsALead(Check check) {
+        check.sentence("1 there is a LEAD");
+        check.same("SURE and in the LANE", Scene.withTrack(60, 1.75, 10, 10).mode(), 1);
+        check.same("beside the LANE", Scene.withTrack(60, Math.nextUp(1.75), 10, 10).mode(), 0);
+        check.same("at X 0", Scene.withTrack(0, 0, 10, 10).mode(), 1);
+    }
+
+    private static void otherwise0(Check check) {
+        check.sentence("otherwise 0.");
+        AssistRows a = new AssistRows();
+        check.same("nothing", a.step(0, 0), 0);
+        check.same("a TRACK that is no LEAD", Scene.see(a, 60, 0, 10, 10), 0);
+        check.same("hands just off", new AssistRows().hands(false, 0) + a.step(70, 100000), 1);
+    }
+
+    /** All conditions hold at once and are taken away from the first one to the last. */
+    private static void theFirstThatFits(Check check) {
+        check.sentence("THE MODE, the first that fits");
         AssistRows a = Scene.stopping(20);
         a.driver(0, 1);
-        for (int n = 0; n < 4; n++) {
-            both(a, 0, 6);
+        for (int n = 0; n < 3; n++) {
+            Scene.seeTwice(a, 10, 0, 0, 6, 20, 10);
         }
-        check.same("sensors differ", a.step(20, 10), 5);
-        both(a, 0, 6);
-        both(a, 0, 6);
-        check.same("not yet for the third time", a.mode(), 5);
-        both(a, 0, 6);
-        check.same("sensors differ", a.mode(), 6);
-        check.same("they stop all the same", a.wish(0), -9.0);
-        check.same("in stage 3", a.stage(), 3);
-        both(a, 0, 0);
-        check.same("stopping", a.mode(), 5);
-        a.hands(true, 10);
-        a.object(0, 10, 0, 0, 10);
-        a.step(0, 10);
+        Scene.seeTwice(a, 10, 0, 0, 6, 20, 10);
+        check.same("6 before 5, 3, 2 and 1", a.mode(), 6);
+        check.same("in STAGE 3", a.stage(), 3);
+        seeAlike(a);
+        check.same("5 before 3, 2 and 1", a.mode(), 5);
+        endStopping(a);
         a.hands(false, 10);
         a.handOver(10);
-        both(a, 0, 0);
-        both(a, 0, 0);
-        check.same("stage 2 while a hand-over was asked", a.stage(), 2);
-        check.same("a hand-over was asked", a.mode(), 4);
+        seeAlike(a);
+        seeAlike(a);
+        check.same("STAGE 2 is there", a.stage(), 2);
+        check.same("4 before 3, 2 and 1", a.mode(), 4);
         a.hands(true, 10);
-        both(a, 0, 0);
-        check.same("stage 3", a.stage(), 3);
-        check.same("braking in stage 3", a.mode(), 3);
+        seeAlike(a);
+        check.same("3 before 2 and 1", a.mode(), 3);
         a.driver(2, 1);
-        both(a, 0, 0);
-        check.same("the pedal", a.mode(), 2);
+        seeAlike(a);
+        check.same("2 before 1", a.mode(), 2);
         a.driver(0, 0);
-        both(a, 0, 0);
-        check.same("the lead", a.mode(), 1);
+        seeAlike(a);
+        check.same("1 before 0", a.mode(), 1);
+        sixBeforeFour(check);
+        fiveBeforeFour(check);
     }
 
-    private static void both(AssistRows a, double v0, double v1) {
-        a.object(0, 10, 0, v0, 10);
-        a.object(1, 10, 0, v1, 10);
-        a.step(20, 10);
+    private static void seeAlike(AssistRows a) {
+        Scene.seeTwice(a, 10, 0, 0, 0, 20, 10);
     }
 
-    private static void ofTheLastStep(Check check) {
-        AssistRows a = Scene.withTrack(60, 0, 10, 10);
-        a.driver(0, 1);
+    private static void endStopping(AssistRows a) {
+        a.hands(true, 10);
+        Scene.seeTwice(a, 10, 0, 0, 0, 0, 10);
+    }
+
+    private static void sixBeforeFour(Check check) {
+        AssistRows a = new AssistRows();
         a.hands(false, 0);
-        a.handOver(0);
-        check.same("as it was", a.mode(), 1);
-        check.same("as step() answers", a.step(10, 0), 4);
-        check.same("as step() answered", a.mode(), 4);
-        a.step(99, 0);
-        check.same("a refused step changes nothing", a.mode(), 4);
+        for (int n = 0; n < 3; n++) {
+            Scene.seeTwice(a, 60, 15, 10, 20, 0, 15);
+        }
+        check.same("6 before 4", a.mode(), 6);
+        check.same("4 was there", a.step(0, 15), 4);
+    }
+
+    private static void fiveBeforeFour(Check check) {
+        AssistRows a = new AssistRows();
+        a.hands(false, 0);
+        check.same("4", a.step(1, 39), 4);
+        check.same("5 before 4", a.step(1, 40), 5);
     }
 }

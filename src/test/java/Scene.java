@@ -1,8 +1,7 @@
-/** Situations that several tests begin with; the time stays 0 in them. */
+/** Situations that several tests begin with; the time stays 0 in them, if nothing else is told. */
 final class Scene {
-    static final double[] NO_NUMBERS = {
-        Double.NaN, Double.POSITIVE_INFINITY, Double.NEGATIVE_INFINITY
-    };
+    /** Numbers that no list of things has. */
+    static final int[] FAR = {-1, Integer.MIN_VALUE, Integer.MAX_VALUE};
 
     private Scene() {
     }
@@ -10,19 +9,33 @@ final class Scene {
     /** One thing is told three times in steps that take no time: a track of SURE 3. */
     static AssistRows withTrack(double x, double y, double itsSpeed, double ownSpeed) {
         AssistRows a = new AssistRows();
-        sureTrack(a, x, y, itsSpeed, ownSpeed);
-        return a;
-    }
-
-    static void sureTrack(AssistRows a, double x, double y, double itsSpeed, double ownSpeed) {
         for (int i = 0; i < 3; i++) {
             see(a, x, y, itsSpeed, ownSpeed);
         }
+        return a;
     }
 
     static int see(AssistRows a, double x, double y, double itsSpeed, double ownSpeed) {
         a.object(0, x, y, itsSpeed, 0);
         return a.step(ownSpeed, 0);
+    }
+
+    /** Tracks that were made in one step at speed 0, in this order, all in the middle and standing. */
+    static AssistRows tracksAt(double... xs) {
+        AssistRows a = new AssistRows();
+        for (int n = 0; n < xs.length; n++) {
+            a.object(n < 4 ? 0 : 1, xs[n], 0, 0, 0);
+        }
+        a.step(0, 0);
+        return a;
+    }
+
+    static int tracksOf(AssistRows a) {
+        int there = 0;
+        for (int i = 0; i < 8; i++) {
+            there += a.track(i, 0);
+        }
+        return there;
     }
 
     /** The hands are off since 0, a hand-over was asked at 0 and the step at 10 began to stop. */
@@ -34,7 +47,14 @@ final class Scene {
         return a;
     }
 
-    /** What is answered of a track and may be compared with what it was before a refusal. */
+    /** Both sensors tell of one thing at a time; what they differ by lies in the speeds. */
+    static int seeTwice(AssistRows a, double x, double y, double v0, double v1, double ownSpeed, double t) {
+        a.object(0, x, y, v0, t);
+        a.object(1, x, y, v1, t);
+        return a.step(ownSpeed, t);
+    }
+
+    /** All that is answered without a change. */
     static String picture(AssistRows a) {
         StringBuilder text = new StringBuilder();
         for (int i = 0; i < 8; i++) {
