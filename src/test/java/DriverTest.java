@@ -5,6 +5,7 @@ final class DriverTest {
         pedal(check);
         brake(check);
         steer(check);
+        eachIsItsOwn(check);
         noSuchKind(check);
         check.end();
     }
@@ -44,6 +45,24 @@ final class DriverTest {
             a.driver(2, v);
             a.step(0, 0);
             check.same("STEER " + v + " is above 0.05 without its sign", a.wish(1), 0.0);
+        }
+    }
+
+    /** Steering to the left by the lane, pull and steering after one kind was told as 1. */
+    private static void eachIsItsOwn(Check check) {
+        check.sentence("The DRIVER: kind = 0 PEDAL, 1 BRAKE (0 .. 1), 2 STEER (-1 .. 1): 1.");
+        double[][] due = {{2, 0.025}, {-9, 0.025}, {0, 0}};
+        for (int kind = 0; kind < 3; kind++) {
+            AssistRows a = new AssistRows();
+            a.lane(-0.25, 0, 0);
+            a.driver(kind, 1);
+            a.step(0, 0);
+            check.same("A with kind " + kind, a.wish(0), due[kind][0]);
+            check.same("Z with kind " + kind, a.wish(1), due[kind][1]);
+            a.driver(kind, 0);
+            a.step(0, 0);
+            check.same("A without", a.wish(0), 0.0);
+            check.same("Z without", a.wish(1), 0.025);
         }
     }
 

@@ -26,6 +26,21 @@ final class LeadTest {
         a.step(10, 0);
         check.same("it coasts with SURE 2", a.wish(3), -1.0);
         check.same("though it is THERE", a.track(0, 0), 1);
+        for (int i = 0; i < 8; i++) {
+            check.same("each TRACK may be it, as " + i, leadAmongEight(i), 20.0 + 20 * i);
+        }
+    }
+
+    /** Of eight tracks this one alone is in the lane. */
+    private static double leadAmongEight(int number) {
+        AssistRows a = new AssistRows();
+        for (int n = 0; n < 3; n++) {
+            for (int i = 0; i < 8; i++) {
+                a.object(i < 4 ? 0 : 1, 20 + 20 * i, i == number ? 0 : 10, 10, 0);
+            }
+            a.step(20, 0);
+        }
+        return a.wish(3);
     }
 
     private static void inTheLane(Check check) {

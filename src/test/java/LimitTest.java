@@ -6,6 +6,7 @@ final class LimitTest {
         gap(check);
         braking(check);
         mostPull(check);
+        eachIsItsOwn(check);
         noSuchWhat(check);
         check.end();
     }
@@ -72,6 +73,28 @@ final class LimitTest {
         check.same("0", pullWithPull(0), 0.0);
         check.same("1", pullWithPull(1), 1.0);
         check.same("3", pullWithPull(3), 3.0);
+    }
+
+    /** After one limit was told as 2.5, the others are what they were at first. */
+    private static void eachIsItsOwn(Check check) {
+        check.sentence("A LIMIT: 0 (0 .. 60), 1 (0.5 .. 3), 2 (1 .. 9), 3 (0 .. 3): 1.");
+        for (int told = 0; told < 4; told++) {
+            AssistRows a = new AssistRows();
+            a.limit(told, 2.5);
+            a.step(2, 0);
+            check.same("the SPEED wished after " + told, a.wish(0), told == 0 ? 0.25 : -1.0);
+            a.limit(0, 60);
+            for (int n = 0; n < 3; n++) {
+                Scene.see(a, 15, 0, 8, 8);
+            }
+            check.same("the GAP after " + told, a.wish(0), told == 1 ? (15 - (3 + 2.5 * 8)) * 0.2 : 0.0);
+            a.driver(0, 1);
+            a.step(8, 0);
+            check.same("PULL after " + told, a.wish(0), told == 3 ? 2.5 : 2.0);
+            a.driver(1, 1);
+            a.step(8, 0);
+            check.same("BRAKING after " + told, a.wish(0), told == 2 ? -2.5 : -9.0);
+        }
     }
 
     private static void noSuchWhat(Check check) {

@@ -2,8 +2,11 @@ import java.util.Random;
 
 /** Runs that are drawn from a fixed seed, each call compared with the Model. */
 final class ModelTest {
-    private static final int RUNS = 1500;
+    private static final int RUNS = 6000;
+    /** What later calls answer is free. */
     private static final int CALLS = 512;
+    private static final int CALLS_TO_READ_ALL = 60;
+    private static final int MOST_CALLS_AT_ONCE = 8;
     private static final double[] ODD = {
         Double.NaN, Double.POSITIVE_INFINITY, Double.NEGATIVE_INFINITY, -0.0, 0, Double.MIN_VALUE,
         -Double.MIN_VALUE, Double.MAX_VALUE, -Double.MAX_VALUE, 1, -1, 0.5, 3, 9, 60, 70, 200, 250, 100000
@@ -19,6 +22,7 @@ final class ModelTest {
     private double own;
     private double spread;
     private int run;
+    private int calls;
 
     private ModelTest(Check check, long seed) {
         this.check = check;
@@ -47,9 +51,12 @@ final class ModelTest {
         now = 0;
         own = drawn.nextInt(8) * 5;
         spread = new double[] {2, 6, 12, 40, 200}[number % 5];
-        for (int calls = 0; calls < CALLS; calls++) {
+        calls = 0;
+        while (calls + MOST_CALLS_AT_ONCE + CALLS_TO_READ_ALL <= CALLS) {
             oneCall();
         }
+        readAll();
+        check.holds("run " + run + " asks no more than the document promises", calls <= CALLS);
     }
 
     private boolean rarely() {
@@ -120,15 +127,20 @@ final class ModelTest {
         if (answered >= 0) {
             now = t;
             modes[answered]++;
-            stages[a.stage()]++;
-            readAll();
+            stages[model.stage()]++;
+            readWishes();
+            same("stage", a.stage(), model.stage());
+        }
+    }
+
+    private void readWishes() {
+        for (int what = 0; what < 4; what++) {
+            same("wish", a.wish(what), model.wish(what));
         }
     }
 
     private void readAll() {
-        for (int what = 0; what < 4; what++) {
-            same("wish", a.wish(what), model.wish(what));
-        }
+        readWishes();
         for (int i = 0; i < 8; i++) {
             same("time", a.time(i), model.time(i));
             for (int what = 0; what < 6; what++) {
@@ -174,6 +186,7 @@ final class ModelTest {
     }
 
     private void same(String call, double got, double due) {
+        calls++;
         check.same("run " + run + ", " + call, got, due);
     }
 }

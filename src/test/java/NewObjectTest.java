@@ -131,6 +131,12 @@ final class NewObjectTest {
         State.FULL.made();
         State.DRIVING.made();
         State.STOPPING.made();
+        AssistRows a = new AssistRows();
+        AssistRows b = new AssistRows();
+        a.sign(4, 60);
+        check.same("the COUNT of another object", b.sign(4, 60), 0);
+        a.object(0, 10, 0, 0, 0);
+        check.same("the MEASURE of another object", b.object(0, 10, 0, 0, 0), 1);
         check.holds("others that were told leave a new one as it is", fresh.equals(Later.of(AssistRows::new, 0)));
     }
 

@@ -119,7 +119,28 @@ final class SignTest {
             b.sign(kind, 60);
             check.same("the other's is 0, then 3", b.sign(kind, 30), other);
             check.same("4", b.sign(kind, 30), kind);
+            itsOwnIs0(check, kind, other);
         }
+    }
+
+    /** What is left of its own COUNT would let it be taken again, which would bring the other's to 0. */
+    private static void itsOwnIs0(Check check, int kind, int other) {
+        AssistRows a = new AssistRows();
+        a.sign(kind, 60);
+        check.same("taken with 4", a.sign(kind, 60), kind);
+        a.sign(other, 60);
+        a.sign(kind, 30);
+        check.same("the other's is 2, 1, 3", a.sign(other, 60), kind);
+        check.same("4, for it was not brought to 0", a.sign(other, 30), other);
+        AssistRows b = new AssistRows();
+        b.sign(kind, 60);
+        b.sign(kind, 30);
+        check.same("taken with 5", b.sign(kind, 60), kind);
+        b.sign(kind, 60);
+        b.sign(other, 60);
+        check.same("its own is 2, 1, 3", b.sign(kind, 60), kind);
+        check.same("the other's is 2, 1, 3", b.sign(other, 60), kind);
+        check.same("4, for it was not brought to 0", b.sign(other, 30), other);
     }
 
     private static void theSignTakenLast(Check check) {

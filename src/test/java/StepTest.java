@@ -7,6 +7,7 @@ final class StepTest {
         itAnswersTheMode(check);
         dIsTheTimeLessNow(check);
         tracksMoveByTheNewSpeed(check);
+        inThisOrder(check);
         check.end();
     }
 
@@ -76,5 +77,45 @@ final class StepTest {
         b.object(0, 36, 0, 0, 1);
         b.step(10, 1);
         check.same("it moves before it is joined", b.track(0, 3), 3800);
+    }
+
+    /** The mode of a step of one second at this speed; at 20 a sure track of speed 10 comes to 0. */
+    private static int leadThatMoves(double speed) {
+        AssistRows a = Scene.withTrack(10, 0, 10, 10);
+        Scene.see(a, 10, 0, 10, 10);
+        a.driver(2, 1);
+        return a.step(speed, 1);
+    }
+
+    /** What a point works out is there for the points after it in the same step. */
+    private static void inThisOrder(Check check) {
+        check.sentence("A STEP, with a speed S and a time, does this, in this order");
+        AssistRows a = Scene.tracksAt(50);
+        a.object(0, 40, 0, 0, 1);
+        a.step(10, 1);
+        check.same("1 before 2: 40 is joined to 50 - 10", Scene.tracksOf(a), 1);
+        AssistRows b = Scene.tracksAt(2);
+        b.object(0, 3, 0, 0, 1);
+        b.step(4, 1);
+        check.same("2 before 3: -2 is below 0, joined to 3 it is not", b.track(0, 3), 50);
+        check.same("near enough, it would be the LEAD", leadThatMoves(19), 1);
+        check.same("3 before 4: gone in this STEP it is none", leadThatMoves(Math.nextUp(20.0)), 0);
+        AssistRows d = Scene.tracksAt(8);
+        Scene.see(d, 8, 0, 0, 16);
+        check.same("no LEAD", d.stage(), 0);
+        Scene.see(d, 8, 0, 0, 16);
+        check.same("4 before 5: LEFT of this STEP", d.stage(), 1);
+        check.same("5 before 7: STAGE of this STEP", Scene.see(d, 8, 0, 0, 16), 3);
+        check.same("5 before 8: STAGE of this STEP", d.wish(0), -4.0);
+        AssistRows e = Scene.stopping(1);
+        check.same("6 before 7: STOPPING of this STEP", e.mode(), 5);
+        check.same("6 before 8: STOPPING of this STEP", e.wish(0), -2.0);
+        AssistRows f = new AssistRows();
+        f.limit(0, 60);
+        for (int n = 0; n < 3; n++) {
+            Scene.seeTwice(f, 60, 15, 10, 20, 0, 0);
+        }
+        check.same("2 before 7: DIFFERING of this STEP", f.mode(), 6);
+        check.same("7 before 8: the MODE of this STEP", f.wish(0), 0.0);
     }
 }

@@ -4,6 +4,7 @@ final class TermsTest {
         Check check = new Check("TermsTest");
         eachIsDoneAsItStands(check);
         middleIsDoneAsItStands(check);
+        withoutItsSign(check);
         aZeroHasNoSign(check);
         whatIsNoNumberIsNot(check);
         nowIsTheTimeOfTheLastStep(check);
@@ -103,6 +104,36 @@ final class TermsTest {
             Scene.see(a, 11.7, y, 0, 0);
         }
         check.same("the lead", a.wish(3), 11.7);
+    }
+
+    /** What is told on the left and on the right, ahead and behind, and by either sensor, comes to the same. */
+    private static void withoutItsSign(Check check) {
+        check.sentence("|a| is a without its sign");
+        for (int side = -1; side <= 1; side += 2) {
+            AssistRows a = new AssistRows();
+            Scene.see(a, 50, 0, 10, 10);
+            Scene.see(a, 50 + 5 * side, 2 * side, 10, 10);
+            check.same("|x - X| of 5 and |y - Y| of 2 are joined", a.track(0, 1), 2);
+            check.same("|Y - middle| of 1.75 is in the LANE", Scene.withTrack(50, 1.75 * side, 10, 10).mode(), 1);
+            check.same("of more is not", Scene.withTrack(50, Math.nextUp(1.75) * side, 10, 10).mode(), 0);
+            AssistRows b = new AssistRows();
+            for (int n = 0; n < 3; n++) {
+                Scene.seeTwice(b, 50, 10, 10, 10 + 6 * side, 10, 0);
+            }
+            check.same("|v - v'| of 6 is above 5", b.mode(), 6);
+            AssistRows c = Scene.withTrack(8, 0, 0, 16);
+            check.same("DUE is 3", c.stage(), 1);
+            c.driver(2, 0.5 * side);
+            Scene.see(c, 8, 0, 0, 16);
+            check.same("|STEER| of 0.5 is above 0.3", c.stage(), 0);
+            AssistRows d = new AssistRows();
+            d.lane(-5 * side, 0, 0);
+            d.step(0, 0);
+            check.same("|G - Z| of 0.3 is above 0.05", d.wish(1), 0.05 * side);
+            d.driver(2, 0.5 * side);
+            d.step(0, 0);
+            check.same("|STEER| of 0.5 is above 0.05", d.wish(1), 0.0);
+        }
     }
 
     private static void aZeroHasNoSign(Check check) {
@@ -245,10 +276,15 @@ final class TermsTest {
         check.sentence("REFUSALS change nothing and answer, the first that fits: "
             + "-1 an unknown number, -2 outside a range, -3 not in this state, -4 no room.");
         Refusal refusal = new Refusal(check);
-        refusal.in(State.FULL, "object, -1 before -2 and -4", a -> a.object(2, 201, 0, 0, 2), -1);
+        refusal.in(State.FULL, "object, -1 before -2 for x", a -> a.object(2, 201, 0, 0, 2), -1);
+        refusal.in(State.FULL, "object, -1 before -2 for y", a -> a.object(-1, 200, 21, 0, 2), -1);
+        refusal.in(State.FULL, "object, -1 before -2 for speed", a -> a.object(2, 200, 0, 71, 2), -1);
+        refusal.in(State.FULL, "object, -1 before -2 for t", a -> a.object(2, 200, 0, 0, 1), -1);
         refusal.in(State.FULL, "object, -1 before -4", a -> a.object(2, 200, 0, 0, 2), -1);
-        refusal.in(State.FULL, "object, -2 before -4", a -> a.object(0, 201, 0, 0, 2), -2);
-        refusal.in(State.FULL, "object, the time, -2 before -4", a -> a.object(1, 200, 0, 0, 1), -2);
+        refusal.in(State.FULL, "object, -2 for x before -4", a -> a.object(0, 201, 0, 0, 2), -2);
+        refusal.in(State.FULL, "object, -2 for y before -4", a -> a.object(1, 200, 21, 0, 2), -2);
+        refusal.in(State.FULL, "object, -2 for speed before -4", a -> a.object(0, 200, 0, 71, 2), -2);
+        refusal.in(State.FULL, "object, -2 for t before -4", a -> a.object(1, 200, 0, 0, 1), -2);
         refusal.in(State.FULL, "object, -4", a -> a.object(0, 200, 0, 0, 2), -4);
         refusal.everywhere("driver, -1 before -2", a -> a.driver(3, 2), -1);
         refusal.everywhere("limit, -1 before -2", a -> a.limit(4, 61), -1);

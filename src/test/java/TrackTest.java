@@ -54,6 +54,9 @@ final class TrackTest {
         check.same("V below 0 is cut towards 0", told(0, 0, -Math.nextDown(2.5)).track(0, 5), -249);
         check.same("V at it", told(0, 0, -2.5).track(0, 5), -250);
         check.same("131.92 times 100 is just below 13192", told(131.92, 0, 0).track(0, 3), 13191);
+        check.same("0.47 times 100 is 47, though 0.47 / 0.01 is just below it", told(0.47, 0, 0).track(0, 3), 47);
+        check.same("Y alike", told(0, -0.47, 0).track(0, 4), -47);
+        check.same("V alike", told(0, 0, 0.47).track(0, 5), 47);
         check.same("less than 0.01", told(0.00999, 0, 0).track(0, 3), 0);
         check.same("more than -0.01", told(0, -0.00999, 0).track(0, 4), 0);
     }

@@ -54,7 +54,8 @@ final class WholeTest {
             a.whole(metres, speed);
             return 0;
         } catch (ArithmeticException e) {
-            return e.getClass() == ArithmeticException.class ? 1 : 2;
+            boolean byTheMachine = "/ by zero".equals(e.getMessage());
+            return e.getClass() == ArithmeticException.class && !byTheMachine ? 1 : 2;
         }
     }
 }
