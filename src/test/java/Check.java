@@ -31,10 +31,10 @@ final class Check {
         }
     }
 
-    /** Compares bits, for a 0 that is answered has no sign. */
+    /** Compares bits, for a 0 that is answered has no sign; what is no number is never due. */
     void same(String call, double got, double due) {
         asked++;
-        if (Double.doubleToLongBits(got) != Double.doubleToLongBits(due)) {
+        if (Double.isNaN(got) || Double.doubleToLongBits(got) != Double.doubleToLongBits(due)) {
             tell(call, String.valueOf(got), String.valueOf(due));
         }
     }
